@@ -255,12 +255,29 @@ public final class TwoForOne {
         if (isNoCell(person, sort)) {
             throw new NoSuchElementException("no such person or sort");
         }
-        int number = seekPoorest(person, sort);
-        if (number >= 0) {
-            System.arraycopy(purse.part, 0, kept.bag, 0, MOST_SORTS);
-            kept.hasBag = true;
+        int tried = 0;
+        purse.open(now, person);
+        for (int number = 0; number <= purse.things; number++) {
+            purse.fill(0, number);
+            boolean more = true;
+            for (int k = 0; k <= POOR_BAGS && more; k++) {
+                if (tried >= POOR_BAGS) {
+                    return SPENT;
+                }
+                tried++;
+                trial.takeBag(now, person, purse.part);
+                int state = search.findWish(trial, person, sort, POOR_STATES);
+                if (state == SPENT) {
+                    return SPENT;
+                }
+                if (state >= 0) {
+                    kept.keepBag(purse.part);
+                    return number;
+                }
+                more = purse.goOn();
+            }
         }
-        return number;
+        return NONE;
     }
 
     public int bag(int sort) throws NoSuchElementException {
@@ -506,31 +523,6 @@ public final class TwoForOne {
             return code / MOST_TIES;
         }
         return what == 2 ? code % MOST_TIES : NONE;
-    }
-
-    private int seekPoorest(int person, int sort) {
-        int tried = 0;
-        purse.open(now, person);
-        for (int number = 0; number <= purse.things; number++) {
-            purse.fill(0, number);
-            boolean more = true;
-            for (int k = 0; k <= POOR_BAGS && more; k++) {
-                if (tried >= POOR_BAGS) {
-                    return SPENT;
-                }
-                tried++;
-                trial.takeBag(now, person, purse.part);
-                int state = search.findWish(trial, person, sort, POOR_STATES);
-                if (state == SPENT) {
-                    return SPENT;
-                }
-                if (state >= 0) {
-                    return number;
-                }
-                more = purse.goOn();
-            }
-        }
-        return NONE;
     }
 
     private int worthAfterWaiting(int person, int waits, int d) {
@@ -1513,6 +1505,7 @@ public final class TwoForOne {
 
         private static boolean thinkTrades(Foresight f, int meeting, int a, int b, int byNone) {
             Market work = f.work;
+            boolean last = meeting + 1 >= work.town.meetings;
             for (int offer = 0; offer < work.law.offers; offer++) {
                 if (!work.canGive(a, offer)) {
                     continue;
@@ -1522,7 +1515,7 @@ public final class TwoForOne {
                         continue;
                     }
                     work.deal(a, b, offer, z, 1);
-                    boolean thought = think(f, meeting + 1);
+                    boolean thought = last ? f.seeEndOfTwo(meeting + 1, a, b) : think(f, meeting + 1);
                     work.deal(a, b, offer, z, -1);
                     if (!thought) {
                         return false;
@@ -1530,6 +1523,13 @@ public final class TwoForOne {
                     f.weigh(meeting, byNone);
                 }
             }
+            return true;
+        }
+
+        /** What the others have at the end was seen when none traded last. */
+        private boolean seeEndOfTwo(int meeting, int a, int b) {
+            ends[meeting][a] = work.bagWorth(a);
+            ends[meeting][b] = work.bagWorth(b);
             return true;
         }
 
@@ -1728,6 +1728,11 @@ public final class TwoForOne {
             orderLength = 0;
             hasShare = false;
             hasImage = false;
+        }
+
+        void keepBag(int[] part) {
+            System.arraycopy(part, 0, bag, 0, MOST_SORTS);
+            hasBag = true;
         }
 
         void keepOrder(int[] meetings, int number) {
