@@ -12,6 +12,7 @@ public final class Promise03Test {
         toldAlready();
         theFirstAndTheLeast();
         allAnew();
+        nothingIsLeft();
         allElseStays();
         notSoMany();
         Check.end();
@@ -20,6 +21,8 @@ public final class Promise03Test {
     private static void goodOnes() {
         TwoForOne x = Check.town("");
         Check.due("sorts of nothing", x.count(1), 1);
+        Check.due("one sort told", Check.town("sorts 1;").count(1), 1);
+        Check.due("two sorts told", Check.town("sorts 2;").count(1), 2);
         x = Check.town("  \n \n");
         Check.due("people of blanks", x.count(0), 0);
         x = Check.town("\n sorts\n8 ;person;person has7 20has0 0worth7 99worth0 0falls100pair7 0 99pair0 7 0pair0 7 99\n;");
@@ -56,6 +59,11 @@ public final class Promise03Test {
         Check.fault("persons;", 1, 0);
         Check.fault("perso;", 1, 0);
         Check.fault("personhas 0 1;", 1, 0);
+        Check.fault("personz;", 1, 0);
+        Check.fault("persona;", 1, 0);
+        Check.fault("aperson;", 1, 0);
+        Check.fault("qerson;", 1, 0);
+        Check.fault("law 2 spoom 0;", 1, 6);
         Check.fault("Person;", 1, 0);
         Check.fault(" person\t;", 1, 7);
         Check.fault("person;\u00e9", 1, 7);
@@ -225,6 +233,33 @@ public final class Promise03Test {
         Check.due("and again", Check.tell(x, "person has 0 3;person has 0 3 worth 0 5;"), 0);
         Check.due("nothing is worth anything to him", x.worth(0), 0);
         Check.due("nothing falls", x.worth(1), 1500);
+    }
+
+    /** Nothing of a town, or of a text with a fault, is left in those behind it. */
+    private static void nothingIsLeft() {
+        String rich = "sorts 8;law 3 spoon 1 burns;" + "person has 0 3 has 7 4 worth 0 5 worth 7 6 pair 0 7 8 falls 30;".repeat(6)
+                + "tie 0 1 2;tie 0 0 7;meet 0 1;meet 5 4;";
+        TwoForOne x = new TwoForOne();
+        for (int k = 0; k < 6; k++) {
+            boolean wrong = k % 3 == 2;
+            Check.due("rich", Check.tell(x, wrong ? rich + "foo" : rich), wrong ? 1 : 0);
+            for (int i = 0; i <= k % 2; i++) {
+                Check.due("plain", Check.tell(x, "sorts 8;" + "person;".repeat(6)), 0);
+                int[] counts = {6, 8, 2, -1, 0, 0, 0, 0, 0};
+                for (int what = 0; what < counts.length; what++) {
+                    Check.due("count " + what, x.count(what), counts[what]);
+                }
+                for (int person = 0; person < 6; person++) {
+                    Check.due("bag " + person, Check.bag(x, person), "0 0 0 0 0 0 0 0");
+                    Check.due("likes", x.likes(person, 0) + x.likes(person, 7), 0);
+                }
+                Check.due("freely", x.freely(), 0);
+                Check.due("by two", x.look(0, 1, 10, 7, 0), 0);
+                Check.none("by one", () -> x.look(0, 1, 1, 7, 0));
+            }
+            Check.due("nothing falls", Check.tell(x, "sorts 8;" + "person has 0 3 worth 0 1;".repeat(6)), 0);
+            Check.due("worth", x.worth(-1), 1800);
+        }
     }
 
     private static void allElseStays() {

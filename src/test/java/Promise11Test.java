@@ -2,6 +2,7 @@
 public final class Promise11Test {
     public static void main(String[] args) {
         gains();
+        littleGains();
         numbers();
         spoons();
         burning();
@@ -40,6 +41,21 @@ public final class Promise11Test {
         look(x, 1, 0, 10, 1, -800 + 300 - 500, -1000 + 100 + 0);
     }
 
+    /** One of two, and the least that can be gained: one hundredth. */
+    private static void littleGains() {
+        TwoForOne x = Check.town("sorts 3;law 1;person has 0 2 has 2 1 worth 1 1 falls 99;"
+                + "person has 1 2 has 0 1 worth 0 1 worth 2 1 falls 99;");
+        look(x, 0, 1, 1, 1, 100, 1);
+        look(x, 0, 1, 3, 1, 100, 100);
+        look(x, 1, 0, 2, 2, 100, 100);
+        TwoForOne y = Check.town("sorts 2;law 1;person has 0 2 has 1 1 worth 1 1 falls 99;person has 1 2 worth 0 1 worth 1 1;");
+        look(y, 0, 1, 1, 1, 1, 0);
+        TwoForOne z = Check.town("sorts 2;law 1;person has 0 2 has 1 1 worth 1 1 falls 99;person has 1 2 has 0 1 worth 0 1 falls 99;");
+        look(z, 0, 1, 1, 1, 1, 1);
+        Check.due("a meeting", z.meet(1, 0), 2);
+        Check.due("bags", Check.bags(z), "1 2 / 2 1");
+    }
+
     private static void numbers() {
         TwoForOne one = Check.town("sorts 8;law 1;person has 7 1;person has 0 1 worth 7 1;");
         look(one, 0, 1, 8, 0, 0, 100);
@@ -53,6 +69,8 @@ public final class Promise11Test {
         Check.none("not in order", () -> three.look(0, 1, 1 * 81 + 8 * 9 + 4, 1, 0));
         Check.none("two figures", () -> three.look(0, 1, 4 * 9 + 8, 1, 0));
         Check.none("four figures", () -> three.look(0, 1, 729 + 81 + 4 * 9 + 8, 1, 0));
+        TwoForOne last = Check.town("sorts 8;law 3;person has 7 3;person has 0 1 worth 7 1;");
+        look(last, 0, 1, 728, 0, 0, 300);
         TwoForOne two = Check.town("sorts 3;person has 0 2 has 2 2;person has 1 1;");
         look(two, 0, 1, 30, 1, 0, 0);
         look(two, 0, 1, 12, 1, 0, 0);

@@ -73,6 +73,14 @@ public final class Promise16Test {
     private static void manyBags() {
         TwoForOne x = Check.town("sorts 3;person has 0 9 has 1 9;person;");
         Check.due("100 bags", x.poor(0, 2), -1);
+        for (int k = 0; k < 5; k++) {
+            Check.due("100 bags once more", x.poor(0, 2), -1);
+        }
+        TwoForOne few = Check.town("sorts 3;person has 0 9;person has 1 8;");
+        for (int k = 0; k < 30; k++) {
+            Check.due("10 bags once more", few.poor(0, 2), -1);
+            Check.due("9 bags once more", few.poor(1, 2), -1);
+        }
         TwoForOne y = Check.town("sorts 4;person has 0 16 has 1 5;person;");
         Check.due("102 bags", y.poor(0, 2), -2);
         TwoForOne z = Check.town("sorts 4;person has 0 20 has 1 20 has 2 20;" + "person has 0 20;".repeat(4));

@@ -40,6 +40,8 @@ public final class Promise20Test {
         TwoForOne w = Check.town("sorts 3;law 1;person has 0 1 has 2 1 worth 1 3;person has 1 1 worth 0 9;person has 2 1 worth 0 99;");
         Check.due("these two alone", w.meet(0, 1), 1200);
         Check.due("bags", Check.bags(w), "0 1 1 / 1 0 0 / 0 0 1");
+        TwoForOne least = Check.town("sorts 2;law 2;person has 1 2 worth 0 3;person has 0 1 worth 1 3;");
+        Check.due("sort 0 is given", least.meet(0, 1), 900);
         TwoForOne falls = Check.town("sorts 2;person has 0 3 worth 0 4 worth 1 5 falls 100;person has 1 2 worth 0 1 falls 0;");
         Check.due("what is worth nothing to him any more", falls.meet(0, 1), 700);
     }
