@@ -1469,6 +1469,8 @@ public final class TwoForOne {
     private static final class Foresight {
         private final Market work;
         private int thoughts;
+        /** Meetings are counted first, since what comes behind the last one is dear and counts for nothing. */
+        private boolean counting;
         /** What each has at the end, as it is seen from each meeting on. */
         final int[][] ends = new int[MOST_MEETINGS + 1][MOST_PEOPLE];
 
@@ -1480,7 +1482,11 @@ public final class TwoForOne {
         boolean foresee(Market begin) {
             work.take(begin);
             thoughts = 0;
-            return think(this, 0);
+            counting = true;
+            boolean enough = think(this, 0);
+            thoughts = 0;
+            counting = false;
+            return enough && think(this, 0);
         }
 
         private static boolean think(Foresight f, int meeting) {
@@ -1490,7 +1496,13 @@ public final class TwoForOne {
                 return true;
             }
             f.thoughts++;
-            if (f.thoughts > THOUGHTS || !think(f, meeting + 1)) {
+            if (f.thoughts > THOUGHTS) {
+                return false;
+            }
+            if (f.counting && meeting + 1 >= town.meetings) {
+                return true;
+            }
+            if (!think(f, meeting + 1)) {
                 return false;
             }
             f.takeOver(meeting);
