@@ -1469,7 +1469,7 @@ public final class TwoForOne {
     private static final class Foresight {
         private final Market work;
         private int thoughts;
-        /** Meetings are counted first, since what comes behind the last one is dear and counts for nothing. */
+        /** Meetings are counted first: too many are told so without looking at any end. */
         private boolean counting;
         /** What each has at the end, as it is seen from each meeting on. */
         final int[][] ends = new int[MOST_MEETINGS + 1][MOST_PEOPLE];
