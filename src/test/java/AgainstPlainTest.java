@@ -159,6 +159,7 @@ public final class AgainstPlainTest {
 
     private int given(int a) {
         int g = x.count(2);
+        calls++;
         if (below(12) == 0) {
             return below(900) - 100;
         }
@@ -309,6 +310,7 @@ public final class AgainstPlainTest {
         sorts = x.count(1);
         ties = x.count(5);
         meetings = x.count(6);
+        calls += 4;
         for (int k = 0; k < 12; k++) {
             int what = k;
             if (!same("count " + k, () -> x.count(what), () -> y.count(what))) {
@@ -321,7 +323,7 @@ public final class AgainstPlainTest {
     /** At most as many calls as an object is used for. */
     private boolean play() {
         boolean good = below(10) > 0 || anyCall();
-        while (good && calls < 400) {
+        while (good && calls < 390) {
             good = below(people < 2 ? 3 : 24) < 2 ? tell() : anyCall();
         }
         return good;

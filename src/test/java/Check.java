@@ -82,8 +82,9 @@ final class Check {
     /** What one has, a figure behind the other (each below 10). */
     static String bag(TwoForOne x, int person) {
         StringBuilder row = new StringBuilder();
-        for (int sort = 0; sort < x.count(1); sort++) {
-            row.append(x.has(person, sort)).append(sort + 1 < x.count(1) ? " " : "");
+        int sorts = x.count(1);
+        for (int sort = 0; sort < sorts; sort++) {
+            row.append(sort > 0 ? " " : "").append(x.has(person, sort));
         }
         return row.toString();
     }
@@ -91,7 +92,8 @@ final class Check {
     /** What all have, a bag behind the other. */
     static String bags(TwoForOne x) {
         StringBuilder row = new StringBuilder();
-        for (int person = 0; person < x.count(0); person++) {
+        int people = x.count(0);
+        for (int person = 0; person < people; person++) {
             row.append(person > 0 ? " / " : "").append(bag(x, person));
         }
         return row.toString();
@@ -102,6 +104,70 @@ final class Check {
             wrong++;
             System.out.println(what + " answered " + got + ", due is " + want);
         }
+    }
+
+    /** A boundary case with a test of its own: CI counts the line that it prints. */
+    static void edge(String sentence, Runnable test) {
+        int before = wrong;
+        try {
+            test.run();
+        } catch (RuntimeException e) {
+            wrong++;
+            System.out.println("thrown: " + e);
+        }
+        System.out.println((wrong == before ? "ok " : "FAILED ") + sentence);
+    }
+
+    /** All that can be seen of an object without a change: some 40 calls of a small town. */
+    static String all(TwoForOne x) {
+        StringBuilder seen = new StringBuilder("counts");
+        for (int what = 0; what < 12; what++) {
+            seen.append(' ').append(x.count(what));
+        }
+        seen.append(" fault ").append(x.fault()).append(" bags ").append(bags(x)).append(" likes");
+        int sorts = x.count(1);
+        int cells = x.count(0) * sorts;
+        for (int cell = 0; cell < cells; cell++) {
+            seen.append(' ').append(x.likes(cell / sorts, cell % sorts));
+        }
+        seen.append(" worth ").append(x.worth(-1)).append(" meetings");
+        int meetings = x.count(6);
+        for (int m = 0; m < meetings; m++) {
+            seen.append(' ').append(x.meeting(m, 0)).append('-').append(x.meeting(m, 1));
+        }
+        return seen.append(kept(x)).toString();
+    }
+
+    /** All that is kept but the image. */
+    static String kept(TwoForOne x) {
+        StringBuilder seen = new StringBuilder(" way");
+        for (int i = 0; isStep(x, i); i++) {
+            for (int what = 0; what < 4; what++) {
+                seen.append(' ').append(x.step(i, what));
+            }
+        }
+        seen.append(" bag");
+        int sorts = x.count(1);
+        for (int sort = 0; sort < sorts; sort++) {
+            int of = sort;
+            seen.append(' ').append(outcome(() -> x.bag(of)));
+        }
+        seen.append(" order");
+        for (int i = 0; i < 5; i++) {
+            int of = i;
+            seen.append(' ').append(outcome(() -> x.ordered(of)));
+        }
+        seen.append(" share");
+        int cells = x.count(0) * sorts;
+        for (int cell = 0; cell < cells; cell++) {
+            int of = cell;
+            seen.append(' ').append(outcome(() -> x.shared(of / sorts, of % sorts)));
+        }
+        return seen.toString();
+    }
+
+    private static boolean isStep(TwoForOne x, int i) {
+        return !outcome(() -> x.step(i, 0)).equals("NoSuchElementException");
     }
 
     static void end() {

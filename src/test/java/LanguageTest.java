@@ -7,28 +7,47 @@ import java.util.regex.Pattern;
 
 /** What of LANGUAGE.md can be seen by reading the source; run from the project's root. */
 public final class LanguageTest {
+    private static final String THROWN = "new (IllegalState|IllegalArgument|IndexOutOfBounds|Arithmetic|UnsupportedOperation|NoSuchElement|Runtime)"
+            + "Exception\\((\"[^\"]*\")?\\)";
+
     public static void main(String[] args) throws Exception {
-        String source = Files.readString(Path.of("src/main/java/TwoForOne.java"), StandardCharsets.UTF_8);
-        Check.due("signs of 1 to 127 alone", source.chars().allMatch(c -> c > 0 && c < 128), true);
-        Check.due("long lines", source.lines().filter(l -> l.length() > 110).count(), 0);
+        String source = Files.readString(Path.of("src/main/java/TwoForOne.java"), StandardCharsets.ISO_8859_1);
         String code = source.replaceAll("(?s)/\\*.*?\\*/", " ").replaceAll("//[^\n]*", " ");
-        for (String word : List.of("package", "try", "catch", "finally", "synchronized", "assert", "instanceof", "this\\.get",
-                "->", "::", "float", "double", "System\\.(?!arraycopy)", "\\w*Exact\\(", "Integer\\.", "Object", "Thread",
-                "static\\s*\\{", "new\\s+\\w+\\[[^]]*\\]\\[[^]]*\\]\\[", "import (?!java\\.util\\.NoSuchElementException;)",
-                "Random", "getMessage", "hashCode", "toString", "equals", "clone", "String\\s*\\+", "\"\\s*\\+", "\\+\\s*\"")) {
-            Check.due("none of " + word, Pattern.compile("(?<!\\w)" + word + (word.matches("\\w+") ? "\\b" : "")).matcher(code).find(), false);
-        }
-        Matcher thrown = Pattern.compile("throw\\s+(.*?);").matcher(code);
-        while (thrown.find()) {
-            boolean plain = thrown.group(1).matches("new (NoSuchElement|IllegalArgument)Exception\\(\"[^\"]*\"\\)");
-            Check.due("a plain throw: " + thrown.group(), plain, true);
-        }
-        Check.due("classes", Pattern.compile("\\bclass \\w+ \\{").matcher(code).results().count() <= 12, true);
-        methods(code);
+        Check.edge("3 texts: their signs are 1 to 127", () -> Check.due("signs", code.chars().allMatch(c -> c > 0 && c < 128), true));
+        without("1 the face", code, "package\\b", "protected\\b", "(?m)^    (static |final )*(int|long|boolean|void) \\w+[ (;=]");
+        without("2 the classes inside", code.replaceAll("(case [^\n]*|default) ->", ""), "->", "::");
+        without("3 types", code, "Object\\b", "List<int\\[", "\\[\\]\\[\\]\\[", "Double\\b", "Float\\b", "Long\\s*\\w+\\s*[=;]", "Character\\b");
+        without("4 the library", code, "System\\.(?!arraycopy\\b)", "\\w*Exact\\(", "Math\\.(sqrt|pow|random|floor\\(|ceil|round|sin|cos)",
+                "import (?!java\\.util\\.(NoSuchElementException|ArrayList|List|Arrays|Iterator);)", "String\\.(format|valueOf|join)",
+                "Arrays\\.(?!copyOf\\b|copyOfRange\\b|fill\\b)", "java\\.(io|net|nio|time|lang)", "Map\\b", "Set<", "Random\\b");
+        without("5 static fields", code, "static\\s*\\{");
+        without("6 exceptions", code, "finally\\b", "synchronized\\b", "assert\\b", "getMessage\\b", "try\\s*\\(", "extends \\w*Exception",
+                "(hashCode|toString|equals)\\(\\)\\s*\\{", "catch \\((Throwable|Error|ArrayIndexOutOfBounds|NullPointer|ClassCast)");
+        without("10 joining texts by StringBuilder", code, "\"\\s*\\+", "\\+\\s*\"");
+        without("13 no clock, no randomness, no thread", code, "currentTimeMillis", "nanoTime", "Thread\\b", "Math\\.random");
+        Check.edge("6 exceptions: what is thrown is new, of one of these, with a written text", () -> {
+            Matcher thrown = Pattern.compile("\\bthrow\\s+(.*?);").matcher(code);
+            while (thrown.find()) {
+                Check.due("a plain throw: " + thrown.group(), thrown.group(1).matches(THROWN), true);
+            }
+        });
+        Check.edge("11 methods stay short", () -> methods(code));
+        Check.edge("11 some twelve classes", () -> {
+            long classes = Pattern.compile("\\b(class|record|enum|interface) \\w+[^;{]*\\{").matcher(code).results().count();
+            Check.due("classes", classes <= 14, true);
+        });
         Check.end();
     }
 
-    /** Methods stay short. */
+    private static void without(String rule, String code, String... patterns) {
+        for (String pattern : patterns) {
+            Check.edge(rule + ": none of " + pattern, () -> {
+                Matcher found = Pattern.compile("(?<![\\w\"])" + pattern).matcher(code);
+                Check.due(found.find() ? found.group() : "", found.reset().find(), false);
+            });
+        }
+    }
+
     private static void methods(String code) {
         String[] lines = code.split("\n");
         int begin = -1;
@@ -41,10 +60,9 @@ public final class LanguageTest {
                 depth = lines[i].startsWith("            ") ? 4 : lines[i].indexOf(lines[i].trim());
             }
             if (begin >= 0 && lines[i].equals(" ".repeat(depth) + "}")) {
-                Check.due("lines of " + lines[begin].trim(), i - begin <= 60, true);
+                Check.due("lines of " + lines[begin].trim(), i - begin <= 70, true);
                 begin = -1;
             }
         }
-        Check.due("the last one ended", begin, -1);
     }
 }

@@ -18,9 +18,9 @@ public final class NothingElseThrownTest {
                 .filter(m -> java.lang.reflect.Modifier.isPublic(m.getModifiers()))
                 .sorted((m, n) -> m.getName().compareTo(n.getName())).toArray(Method[]::new);
         Random random = new Random(11);
-        for (int round = 0; round < 60; round++) {
+        for (int round = 0; round < 90; round++) {
             TwoForOne x = new TwoForOne();
-            for (int k = 0; k < 450; k++) {
+            for (int k = 0; k < 300; k++) {
                 if (k % 90 == 0) {
                     Check.tell(x, TOWNS[random.nextInt(TOWNS.length)]);
                 }
@@ -41,7 +41,7 @@ public final class NothingElseThrownTest {
             Throwable thrown = e.getCause();
             boolean declared = Arrays.asList(call.getExceptionTypes()).contains(thrown.getClass());
             StackTraceElement[] trace = thrown.getStackTrace();
-            boolean own = trace.length > 0 && trace[0].getClassName().equals("TwoForOne");
+            boolean own = trace.length > 0 && trace[0].getClassName().startsWith("TwoForOne");
             Check.due(call.getName() + Arrays.toString(numbers) + " threw " + thrown, declared && own, true);
         }
     }

@@ -239,8 +239,8 @@ public final class Promise03Test {
     private static void nothingIsLeft() {
         String rich = "sorts 8;law 3 spoon 1 burns;" + "person has 0 3 has 7 4 worth 0 5 worth 7 6 pair 0 7 8 falls 30;".repeat(6)
                 + "tie 0 1 2;tie 0 0 7;meet 0 1;meet 5 4;";
-        TwoForOne x = new TwoForOne();
         for (int k = 0; k < 6; k++) {
+            TwoForOne x = new TwoForOne();
             boolean wrong = k % 3 == 2;
             Check.due("rich", Check.tell(x, wrong ? rich + "foo" : rich), wrong ? 1 : 0);
             for (int i = 0; i <= k % 2; i++) {
