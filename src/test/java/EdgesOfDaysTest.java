@@ -321,11 +321,21 @@ public final class EdgesOfDaysTest {
                 + "person has 2 1 worth 0 9;meet 0 1;meet 0 2;", 900, 0, 900);
         ahead("a loss that is made good by the end", "sorts 3;law 1;person has 0 1 worth 1 5;person has 1 1 worth 1 1 worth 2 9;"
                 + "person has 2 1 worth 0 7;meet 0 1;meet 1 2;", 500, 900, 700);
+        ahead("a loss that is made good by the end, of the last PEOPLE", "sorts 3;law 1;person;person;person;person has 0 1 worth 1 5;"
+                + "person has 1 1 worth 1 1 worth 2 9;person has 2 1 worth 0 7;meet 3 4;meet 4 5;", 0, 0, 0, 500, 900, 700);
+        ahead("the second has less by the end, though more at first: none, of the last PEOPLE", "sorts 3;law 1;person;person;person;"
+                + "person has 1 1 worth 0 5;person has 0 1 worth 1 2 worth 2 9;person has 2 1 worth 0 7;meet 3 4;meet 4 5;", 0, 0, 0, 0, 900, 700);
         String choice = "sorts 4;law 1;person has 0 1 has 1 1 worth 2 9 worth 3 5;person has 2 1 has 3 1 worth 0 9 worth 1 9 worth 2 8 worth 3 1;";
         ahead("that by which the first one has most", choice + "meet 0 1;", 900, 1000);
         ahead("that by which the first one has most: the other one is first", choice + "meet 1 0;", 500, 1700);
         ahead("of like ones the first", "sorts 4;law 1;person has 2 1 worth 0 5 worth 1 5;person has 0 1 has 1 1 worth 2 9 worth 3 1;"
                 + "person has 3 1 worth 0 9;meet 0 1;meet 1 2;", 500, 900, 0);
+        String either = "sorts 4;person has 0 1 has 1 1 worth 2 5 worth 3 1;person has 2 1 has 3 1 worth 0 4;";
+        ahead("of like ones the first: the least a, though the other one is first", either + "meet 1 0;", 500, 400);
+        ahead("that by which the first one has most: of the greater a", either + "meet 0 1;", 600, 400);
+        ahead("of like ones the first: the least given", "sorts 4;law 1;person has 0 1 has 1 1 worth 1 1 worth 2 5;person has 2 1 worth 0 4 worth 1 4;"
+                + "meet 1 0;", 600, 400);
+        ahead("of like ones the first: the least z", "sorts 4;law 1;person has 0 1 worth 2 5 worth 3 6;person has 2 1 has 3 1 worth 0 4;meet 1 0;", 500, 400);
         ahead("eight MEETINGS", "sorts 2;person has 0 2 worth 1 5;person has 1 1 worth 0 4;" + "meet 0 1;".repeat(8), 500, 800);
         ahead("at most 3000 times: 3000", "sorts 7;person has 1 1 has 2 1 has 3 1 has 5 12;"
                 + "person has 0 15 has 1 3 has 3 3 has 4 1 worth 0 4 worth 1 1 worth 3 5;meet 0 1;meet 1 0;meet 1 0;", 0, 7800);
@@ -384,7 +394,12 @@ public final class EdgesOfDaysTest {
         still("d 2: two DAYS with him", 0, 2, 0, 200, daily);
         still("d 10: ten DAYS with him", 0, 10, 0, 1000, daily);
         still("the last PERSON", 5, 1, 0, 0, "person;".repeat(6));
-        still("his MEETINGS are left out, as first and as second", 1, 1, 0, 200, CHAIN + "meet 0 1;meet 1 2;meet 2 1;");
+        String waits = "sorts 3;law 1;person has 0 1 worth 0 1 worth 1 5 worth 2 9;"
+                + "person has 1 1 worth 0 3 worth 1 1 worth 2 2;person has 2 1 worth 1 5 worth 2 1;";
+        still("MEETINGS of his are left out: he is first", 0, 1, 1, 900, waits + "meet 0 1;meet 1 2;");
+        still("MEETINGS of his are left out: he is second", 0, 1, 1, 900, waits + "meet 1 0;meet 2 1;");
+        still("MEETINGS of others are not left out: his comes first", 0, 2, 1, 900, waits + "meet 1 0;meet 1 0;meet 1 2;");
+        still("the other one's way: he goes at once", 1, 1, 0, 300, waits + "meet 1 0;meet 2 1;");
         for (int d : new int[] {0, 11, -1, -10, 60, 256, Integer.MAX_VALUE, Integer.MIN_VALUE}) {
             Check.edge("26 d (1 to 10): " + d, () -> {
                 TwoForOne x = Busy.fed();

@@ -456,6 +456,10 @@ public final class EdgesOfWaysTest {
             step(x, 0, 0, 1, 1, 1);
             Check.none("no second step", () -> x.step(1, 0));
         });
+        Check.edge("18 MOST: two PEOPLE make a TRADE: nobody burns by himself", () -> {
+            TwoForOne x = Check.town("sorts 4;law 2 burns;person has 0 20 has 1 20 has 2 20 has 3 20 worth 0 1;");
+            Check.due("most", x.most(), 2000);
+        });
         Check.edge("18 MOST: more by a hundredth is more", () -> {
             TwoForOne x = Check.town("sorts 2;law 1;person has 0 1 has 1 1 worth 1 1 falls 99;person has 1 1;");
             Check.due("most", x.most(), 101);
