@@ -1424,10 +1424,12 @@ public final class TwoForOne {
         /** Keeps the state at work, if it is a new one. */
         private void arrive(int state, int step) {
             int head = hash();
-            for (int k = heads[head]; k >= 0 && k < size; k = next[k]) {
+            int k = heads[head];
+            for (int seen = 0; seen < size && k >= 0 && k < size; seen++) {
                 if (isAtWork(k)) {
                     return;
                 }
+                k = next[k];
             }
             if (size >= limit) {
                 spent = true;

@@ -31,6 +31,7 @@ public final class LanguageTest {
                 Check.due("a plain throw: " + thrown.group(), thrown.group(1).matches(THROWN), true);
             }
         });
+        Check.edge("9 every loop counts against a bound", () -> loops(code));
         Check.edge("11 methods stay short", () -> methods(code));
         Check.edge("11 some twelve classes", () -> {
             long classes = Pattern.compile("\\b(class|record|enum|interface) \\w+[^;{]*\\{").matcher(code).results().count();
@@ -46,6 +47,38 @@ public final class LanguageTest {
                 Check.due(found.find() ? found.group() : "", found.reset().find(), false);
             });
         }
+    }
+
+    /** Something that a loop's head compares is counted in its head or its body; a loop over an array has its end. */
+    private static void loops(String code) {
+        Matcher loop = Pattern.compile("\\b(for|while) \\(").matcher(code);
+        while (loop.find()) {
+            int behindHead = behind(code, loop.end() - 1, '(', ')');
+            String head = code.substring(loop.start(), behindHead);
+            String whole = code.substring(loop.start(), behind(code, code.indexOf("{", behindHead), '{', '}'));
+            boolean counts = !head.contains(";") && head.contains(" : ");
+            Matcher compared = Pattern.compile("\\b(\\w+) [<>]=? (?=(\\w+))").matcher(head);
+            while (compared.find()) {
+                counts |= isCounted(compared.group(1), whole) || isCounted(compared.group(2), whole);
+            }
+            Check.due("counts: " + head, counts, true);
+        }
+    }
+
+    private static boolean isCounted(String name, String whole) {
+        return Pattern.compile("\\b" + name + "(\\+\\+|--| [+-]= )").matcher(whole).find();
+    }
+
+    /** The place behind the bracket that closes the one that opens here. */
+    private static int behind(String code, int from, char opening, char closing) {
+        int depth = 0;
+        for (int i = from; i < code.length(); i++) {
+            depth += code.charAt(i) == opening ? 1 : code.charAt(i) == closing ? -1 : 0;
+            if (depth == 0) {
+                return i + 1;
+            }
+        }
+        return code.length();
     }
 
     private static void methods(String code) {
